@@ -962,7 +962,7 @@ public final class AirMail {
             if (count > upTo || !mayEnd()) {
                 return upTo;
             }
-            release();
+            releaseDownTo(Texts.STRENGTH_OR);
             closeChoices();
             return NONE;
         }
@@ -1015,7 +1015,7 @@ public final class AirMail {
                 state = BEHIND_THING;
             } else if (letters.indexOf((char) sign) >= 0) {
                 write(Texts.LETTERS + sign - 'a');
-                digits = MOST_DIGITS;
+                takeNoDigits();
                 state = BEHIND_THING;
             } else if (sign == '!' || sign == '-') {
                 hold(sign == '!' ? Texts.NOT : Texts.NEGATE);
@@ -1053,14 +1053,19 @@ public final class AirMail {
             return true;
         }
 
+        /** Behind a letter or a bracket a digit is as wrong as a fourth one is behind three. */
+        private void takeNoDigits() {
+            digits = MOST_DIGITS;
+        }
+
         private boolean takesClose() {
             if (depth == 0) {
                 return false;
             }
-            release();
+            releaseDownTo(Texts.STRENGTH_OR);
             drop();
             depth--;
-            digits = MOST_DIGITS;
+            takeNoDigits();
             return true;
         }
 
@@ -1068,7 +1073,7 @@ public final class AirMail {
             if (sign != ':') {
                 return false;
             }
-            release();
+            releaseDownTo(Texts.STRENGTH_OR);
             compared[0] = false;
             state = ACT;
             return true;
@@ -1078,7 +1083,7 @@ public final class AirMail {
             if (sign == ':' && openChoices == 0) {
                 return false;
             }
-            release();
+            releaseDownTo(Texts.STRENGTH_OR);
             if (sign == '?') {
                 openChoices++;
             } else {
@@ -1118,10 +1123,6 @@ public final class AirMail {
             write(Texts.ACTS + sign);
             state = BEHIND_ACT;
             return true;
-        }
-
-        private void release() {
-            releaseDownTo(1);
         }
 
         /** Held operators that bind as strongly or more have both their things now. */
@@ -1167,7 +1168,7 @@ public final class AirMail {
         private static int strengthOf(int sign) {
             switch (sign) {
                 case '|':
-                    return 1;
+                    return Texts.STRENGTH_OR;
                 case '&':
                     return 2;
                 case '<':
@@ -1196,6 +1197,7 @@ public final class AirMail {
         static final int NOT = '!';
         static final int NEGATE = '~';
         static final int CHOOSE = '?';
+        static final int STRENGTH_OR = 1;
         static final int STRENGTH_COMPARE = 3;
         static final int STRENGTH_TIMES = 5;
         static final int NO_LINE = -2;
@@ -1686,9 +1688,21 @@ public final class AirMail {
             int end = now + n;
             for (int i = 0; i < n && now < end; i++) {
                 now = nextBusy(end);
-                if (now < end) {
-                    passOne();
+                if (now == end) {
+                    return;
                 }
+                beginQuarter();
+                for (int k = 0; k < flightCount; k++) {
+                    if (flights[k].waits() && flights[k].quarter <= now) {
+                        tryStart(k);
+                    }
+                }
+                for (int k = 0; k < planeCount; k++) {
+                    if (planes[k].isAloft()) {
+                        fly(k);
+                    }
+                }
+                now++;
             }
         }
 
@@ -1713,7 +1727,8 @@ public final class AirMail {
             return Math.max(next, now);
         }
 
-        private void passOne() {
+        /** Pilots begin a new day, and trains come. */
+        private void beginQuarter() {
             if (now % QUARTERS_A_DAY == 0) {
                 for (int i = 0; i < pilotCount; i++) {
                     pilots[i].flown = 0;
@@ -1724,17 +1739,6 @@ public final class AirMail {
                     bags[i].putAt(bags[i].to, now);
                 }
             }
-            for (int i = 0; i < flightCount; i++) {
-                if (flights[i].waits() && flights[i].quarter <= now) {
-                    tryStart(i);
-                }
-            }
-            for (int i = 0; i < planeCount; i++) {
-                if (planes[i].isAloft()) {
-                    fly(i);
-                }
-            }
-            now++;
         }
 
         private boolean isNight() {

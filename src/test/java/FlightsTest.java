@@ -210,6 +210,14 @@ public final class FlightsTest {
         y.flight(0, 0, 0, 0);
         y.step(1);
         Check.due("a long leg to its own field", y.where(0, 1), 0);
+        AirMail z = simple(":G", "");
+        for (int i = 0; i < 3; i++) {
+            z.bag(0, 1, 225, 4, 60);
+        }
+        z.flight(0, 0, 0, 0);
+        z.step(1);
+        Check.due("450 in all", z.of(0, 8), 450);
+        Check.due("of equal ones the last by number stays", z.where(2, 0), 0);
     }
 
     private static void starts(AirMail x, String rule, boolean is) {

@@ -8,6 +8,7 @@ public final class SparesTest {
         mostPlanesFirst();
         lessFieldFirst();
         noneBehindAll();
+        eightOfEight();
         againstAllShares();
         Check.finish();
     }
@@ -140,6 +141,39 @@ public final class SparesTest {
         Check.due("one for two", x.send(), 13);
         Check.row("the first has it", x, 1, -1);
         Check.due("the other needs it still", x.needs(), 1);
+    }
+
+    private static void eightOfEight() {
+        AirMail x = new AirMail();
+        for (int i = 0; i < 8; i++) {
+            x.field(0, true, i == 7 ? 0 : 1);
+        }
+        for (int i = 0; i < 7; i++) {
+            x.leg(i, i + 1, 400, 0);
+        }
+        for (int i = 0; i < 8; i++) {
+            x.plane(i == 7 ? 6 : i, 20, 500, 100, 10, true);
+            worn(x, i);
+        }
+        Check.due("each has its own but one", x.send(), 0);
+        Check.row("the first at field 6", x, 0, 1, 2, 3, 4, 5, 6, -1);
+        AirMail y = new AirMail();
+        for (int i = 0; i < 8; i++) {
+            y.field(0, true, i == 7 ? 9 : 0);
+        }
+        for (int i = 0; i < 7; i++) {
+            y.leg(i, i + 1, 400, 0);
+        }
+        for (int i = 0; i < 8; i++) {
+            y.plane(0, 20, 500, 100, 10, true);
+            worn(y, i);
+        }
+        Check.due("the longest way for all", y.send(), 8 * 350);
+        Check.row("all of field 7", y, 7, 7, 7, 7, 7, 7, 7, 7);
+        worn(y, 0);
+        y.step(350);
+        Check.due("one left", y.send(), 350);
+        Check.row("for plane 0", y, 7);
     }
 
     /** All shares of chance lands, tried one by one. */
