@@ -2073,6 +2073,7 @@ public final class AirMail {
     static final class Spares {
         private static final int MILES_A_QUARTER = 8;
         private static final long[] PLACES = {4782969L, 531441L, 59049L, 6561L, 729L, 81L, 9L, 1L};
+        private static final int BASE = 9;
         private static final int NO_FIELD = 8;
         private static final long ONE_QUARTER = 43046721L;
         private static final long MOST_QUARTERS = 4096L;
@@ -2114,11 +2115,18 @@ public final class AirMail {
                 }
             }
             long best = leastOfAll();
-            for (int i = 0; i < count; i++) {
-                int field = (int) (best / PLACES[i] % 9);
-                from[i] = field == NO_FIELD ? NONE : field;
-            }
+            readFields(best);
             return (int) (best / ONE_QUARTER % MOST_QUARTERS);
+        }
+
+        // the last place is the lowest digit; places that no plane has are 0
+        private void readFields(long cost) {
+            long digits = cost;
+            for (int i = MOST_PLANES - 1; i >= 0; i--) {
+                int field = (int) (digits % BASE);
+                from[i] = field == NO_FIELD ? NONE : field;
+                digits /= BASE;
+            }
         }
 
         private void price(World world, int field) {
